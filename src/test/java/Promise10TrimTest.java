@@ -1,0 +1,63 @@
+/** Promise 10: trim. */
+final class Promise10TrimTest {
+    public static void main(String[] args) {
+        refusals();
+        numbers();
+        orders();
+        Check.end();
+    }
+
+    private static void due(int want, int n, int a, int b, int c, int d) {
+        String call = "trim(" + n + ", " + a + ", " + b + ", " + c + ", " + d + ")";
+        Check.due(call, new SlotStart().trim(n, a, b, c, d), want);
+    }
+
+    private static void refusals() {
+        due(SlotStart.OUTSIDE, 0, 0, 0, 0, 0);
+        due(SlotStart.OUTSIDE, 5, 0, 0, 0, 0);
+        due(SlotStart.OUTSIDE, -1, 0, 0, 0, 0);
+        for (int sign = -1; sign <= 1; sign += 2) {
+            due(SlotStart.OUTSIDE, 1, 5001 * sign, 0, 0, 0);
+            due(SlotStart.OUTSIDE, 2, 0, 5001 * sign, 0, 0);
+            due(SlotStart.OUTSIDE, 3, 0, 0, 5001 * sign, 0);
+            due(SlotStart.OUTSIDE, 4, 0, 0, 0, 5001 * sign);
+            due(100000, 1, 0, 5001 * sign, 5001 * sign, 5001 * sign);
+            due(100000, 2, 0, 0, 5001 * sign, 5001 * sign);
+            due(100000, 3, 0, 0, 0, 5001 * sign);
+            due(100000 + 5000 * sign, 1, 5000 * sign, 0, 0, 0);
+        }
+        due(SlotStart.OUTSIDE, 1, Integer.MIN_VALUE, 0, 0, 0);
+        due(SlotStart.OUTSIDE, 1, Integer.MAX_VALUE, 0, 0, 0);
+    }
+
+    private static void numbers() {
+        due(99999, 1, -1, 5, 6, 7);
+        due(100001, 2, 1, 2, 9, 9);
+        due(99999, 2, -1, -2, 9, 9);
+        due(100000, 2, -2, 1, 9, 9);
+        due(100000, 2, -5000, 5000, 9, 9);
+        due(100005, 3, 1, 5, 5000, 9);
+        due(100005, 3, 5, 5, 5, 9);
+        due(100010, 3, 10, 10, -7, 9);
+        due(100004, 4, 1, 4, 5, 100);
+        due(99996, 4, -1, -4, -5, -100);
+        due(100007, 4, 7, 7, 7, 7);
+        due(100001, 4, 0, 0, 3, 3);
+        due(105000, 4, 5000, 5000, 5000, 5000);
+    }
+
+    /** The order in which the numbers are told is no matter. */
+    private static void orders() {
+        int[] some = {-30, 2, 9, 400};
+        for (int a = 0; a < 4; a++) {
+            for (int b = 0; b < 4; b++) {
+                for (int c = 0; c < 4; c++) {
+                    int d = 6 - a - b - c;
+                    if (a != b && a != c && b != c) {
+                        due(100005, 4, some[a], some[b], some[c], some[d]);
+                    }
+                }
+            }
+        }
+    }
+}
