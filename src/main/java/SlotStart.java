@@ -597,19 +597,20 @@ public final class SlotStart {
             quiet = last.heard == 0 && !isSignGiven ? quiet + 1 : 0;
             if (kind == STARTER) {
                 if (last.guide != NONE && last.guide == ahead.guide) {
-                    follow(JOINING);
+                    followGuide();
+                    become(JOINING);
                 } else if (quiet >= wait) {
                     become(LEADING);
                 }
             } else if (last.starters >= ENOUGH_STARTERS && ahead.starters >= ENOUGH_STARTERS) {
-                follow(ACTIVE);
+                followGuide();
+                become(ACTIVE);
             }
         }
 
-        private void follow(int thing) {
+        private void followGuide() {
             at += last.guideSeen;
             rate = last.guidePace - drift;
-            become(thing);
         }
 
         private void settleLeading() {

@@ -46,6 +46,12 @@ final class Promise06OffTest {
         Check.due("AT of one that is OFF", x.told(3, 5), 100000);
         x.off(3);
         Check.due("AGE of one that is OFF again", x.told(3, 1), 0);
+        SlotStart r = Scenes.two();
+        r.clock(1, 0, 40);
+        r.run(3);
+        Check.due("RATE ahead", r.told(0, 6), 1020);
+        r.off(0);
+        Check.due("RATE behind", r.told(0, 6), 1000);
         SlotStart y = Scenes.three();
         y.off(0);
         y.run(1);

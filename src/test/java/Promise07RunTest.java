@@ -12,6 +12,7 @@ final class Promise07RunTest {
         onlyOddCycles();
         rateHasEnds();
         ratesByMoves();
+        onlyWhoSentAhead();
         passiveComesBack();
         badAndGood();
         halted();
@@ -205,9 +206,36 @@ final class Promise07RunTest {
         Check.due("told(1, 6)", x.told(1, 6), 980);
         Check.due("told(0, 5)", x.told(0, 5), 100060);
         Check.due("told(1, 5)", x.told(1, 5), 100060);
+        x.wake(2, 0);
         x.run(1);
         Check.due("told(0, 5)", x.told(0, 5), 100080);
         Check.due("told(1, 5)", x.told(1, 5), 100080);
+        x.run(1);
+        Check.due("told(2, 0)", x.told(2, 0), 3);
+        Check.due("RATE of one that FOLLOWS a RATE", x.told(2, 6), 1020);
+        Check.due("AT of one that FOLLOWS a RATE", x.told(2, 5), 100100);
+        Check.due("AT of its GUIDE", x.told(0, 5), 100100);
+    }
+
+    /** NODE 2 SENDS in CYCLE 11 first, and NODE 1 not in it: both are no matter for RATE in it. In CYCLE 13 NODE 2 is. */
+    private static void onlyWhoSentAhead() {
+        SlotStart x = Scenes.two();
+        x.clock(2, 1, 100);
+        x.wake(2, 0);
+        x.run(1);
+        x.clock(1, 1, -50);
+        x.run(1);
+        Check.due("told(2, 0) behind CYCLE 10", x.told(2, 0), 3);
+        x.off(1);
+        x.run(1);
+        Check.due("seen(0, 2)", x.seen(0, 2), 100100);
+        Check.due("AT behind CYCLE 11", x.told(0, 5), 100050);
+        Check.due("RATE behind CYCLE 11", x.told(0, 6), 1000);
+        x.run(1);
+        x.clock(2, 1, 110);
+        x.run(1);
+        Check.due("AT behind CYCLE 13", x.told(0, 5), 100085);
+        Check.due("RATE behind CYCLE 13", x.told(0, 6), 1005);
     }
 
     private static void passiveComesBack() {

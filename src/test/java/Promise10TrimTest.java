@@ -4,6 +4,7 @@ final class Promise10TrimTest {
         refusals();
         numbers();
         orders();
+        again();
         Check.end();
     }
 
@@ -44,6 +45,14 @@ final class Promise10TrimTest {
         due(100007, 4, 7, 7, 7, 7);
         due(100001, 4, 0, 0, 3, 3);
         due(105000, 4, 5000, 5000, 5000, 5000);
+    }
+
+    private static void again() {
+        SlotStart x = new SlotStart();
+        Check.due("trim(4, 1, 2, 3, 4)", x.trim(4, 1, 2, 3, 4), 100002);
+        Check.due("trim(1, 9, 0, 0, 0)", x.trim(1, 9, 0, 0, 0), 100009);
+        Check.due("trim(4, 1, 2, 3, 9999)", x.trim(4, 1, 2, 3, 9999), SlotStart.OUTSIDE);
+        Check.due("trim(2, -9, -6, 0, 0)", x.trim(2, -9, -6, 0, 0), 99993);
     }
 
     /** The order in which the numbers are told is no matter. */

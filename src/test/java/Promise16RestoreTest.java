@@ -5,7 +5,9 @@ final class Promise16RestoreTest {
     public static void main(String[] args) {
         refusals();
         allIsAsItWas();
+        eventsAndCounts();
         whatCannotBeToldIsAsItWas();
+        twoStartersAhead();
         imagesStay();
         Check.end();
     }
@@ -50,6 +52,48 @@ final class Promise16RestoreTest {
         Check.due("LIE", x.clock(1, 1, 0), 975);
         Check.due("off(0)", x.off(0), 4);
         Check.due("SLOT", x.node(0, 1, 9, 3), 1);
+    }
+
+    private static void eventsAndCounts() {
+        SlotStart x = Scenes.onePassive();
+        x.run(4);
+        List<Integer> then = Dump.of(x);
+        Check.due("BAD", x.told(3, 4), 2);
+        x.image(0);
+        x.run(2);
+        Check.due("HALTED", x.told(3, 0), 6);
+        x.off(0);
+        x.off(1);
+        x.off(3);
+        x.wake(2, 0);
+        for (int i = 0; i < 5; i++) {
+            x.run(50);
+        }
+        Check.due("events", x.event(-1, 0), 40);
+        x.restore(0);
+        Dump.same("as it was", Dump.of(x), then);
+        x.run(2);
+        Check.due("HALTED", x.told(3, 0), 6);
+        x.restore(0);
+        x.bound(500);
+        x.run(2);
+        Check.due("GOOD", x.told(3, 3), 1);
+    }
+
+    /** NODE 3 HEARD two STARTERS in CYCLE 6. */
+    private static void twoStartersAhead() {
+        SlotStart x = new SlotStart();
+        x.wake(0, 0);
+        x.wake(1, 0);
+        x.wake(3, 0);
+        x.run(7);
+        x.image(0);
+        x.off(0);
+        x.off(1);
+        x.run(3);
+        x.restore(0);
+        x.run(1);
+        Check.due("told(3, 0)", x.told(3, 0), 4);
     }
 
     /** KIND and WAIT, and what was HEARD and SEEN in the CYCLE ahead. */
