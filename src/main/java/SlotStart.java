@@ -15,6 +15,7 @@ public final class SlotStart {
     private static final int OFF = 0, LISTENING = 1, LEADING = 2, JOINING = 3, ACTIVE = 4, PASSIVE = 5,
         HALTED = 6;
 
+    private static final int STARTERS_AT_FIRST = 3;
     private static final int LAST_SLOT = 9, LAST_WAIT = 9, FIRST_WAIT = 3;
     private static final int MOST_DRIFT = 50, MOST_LIE = 400, LIE_STEP = 10;
     private static final int MOST_BOUND = 500, FIRST_BOUND = 100;
@@ -512,7 +513,7 @@ public final class SlotStart {
         Hearing ahead = new Hearing();
 
         Node(int number) {
-            kind = number < 3 ? STARTER : FOLLOWER;
+            kind = number < STARTERS_AT_FIRST ? STARTER : FOLLOWER;
             slot = number + 1;
         }
 

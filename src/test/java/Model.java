@@ -4,7 +4,7 @@ import java.util.List;
 
 /**
  * The document once more, in another form: what is HEARD and SEEN is worked out anew from a picture of each CYCLE,
- * each NODE is made anew at the end of a CYCLE, and nothing is shared, so that a slip of the class shows as a difference.
+ * each NODE is made anew at the end of a CYCLE, and nothing is shared: a slip of the class shows as a difference.
  */
 final class Model {
     /** A NODE, as it is at one time; never changed. */

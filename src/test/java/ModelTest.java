@@ -46,7 +46,8 @@ final class ModelTest {
     }
 
     private int between(int least, int most) {
-        return random.nextInt(wildness) == 0 ? ODD[random.nextInt(ODD.length)] : least + random.nextInt(most - least + 1);
+        boolean isOdd = random.nextInt(wildness) == 0;
+        return isOdd ? ODD[random.nextInt(ODD.length)] : least + random.nextInt(most - least + 1);
     }
 
     private int small(int most) {
@@ -116,8 +117,9 @@ final class ModelTest {
         }
         String told = name + "(" + a + ", " + b + ", " + c + ", " + d + ", " + e + ")";
         Check.due(where + told, got, want);
-        String kind = name.equals("told") && b == 0 ? "told, 0" : name.equals("event") && b == 2 && a >= 0 ? "event, 2" : name;
-        boolean fewAnswers = got < 0 || !kind.equals(name) || "soon bears run count off".contains(name);
+        boolean tellsWhatItIs = name.equals("told") && b == 0 || name.equals("event") && b == 2 && a >= 0;
+        boolean fewAnswers = got < 0 || tellsWhatItIs || "soon bears run off".contains(name);
+        String kind = tellsWhatItIs ? name + " of what it is" : name;
         REACHED.merge(kind + " answered " + (fewAnswers ? String.valueOf(got) : "a number"), 1, Integer::sum);
     }
 }

@@ -8,6 +8,7 @@ final class Promise07RunTest {
         lateJoiners();
         following();
         followers();
+        startersThen();
         trimOfAll();
         onlyOddCycles();
         rateHasEnds();
@@ -154,6 +155,37 @@ final class Promise07RunTest {
         Check.due("two STARTERS in one CYCLE only", z.told(4, 0), 1);
     }
 
+    /** Who was a STARTER in the CYCLE ahead counts as one there, whatever its KIND is since. */
+    private static void startersThen() {
+        SlotStart x = Scenes.three();
+        x.wake(2, 0);
+        x.run(1);
+        x.wake(4, 0);
+        x.run(1);
+        x.off(1);
+        x.node(1, 2, 2, 3);
+        Check.due("told(4, 0) behind CYCLE 10", x.told(4, 0), 1);
+        x.run(1);
+        Check.due("it HEARD 0 and 1, then 0 and 2", x.told(4, 0), 4);
+        SlotStart y = new SlotStart();
+        y.wake(0, 0);
+        y.wake(1, 0);
+        y.wake(3, 0);
+        y.run(8);
+        y.wake(2, 0);
+        y.run(1);
+        y.off(1);
+        y.wake(4, 0);
+        y.run(1);
+        Check.due("told(4, 9) behind CYCLE 9", y.told(4, 9), 2);
+        y.off(3);
+        y.node(3, 1, 4, 3);
+        y.run(1);
+        Check.due("it HEARD 0 and a FOLLOWER, then 0 and 2", y.told(4, 0), 1);
+        y.run(1);
+        Check.due("it HEARD 0 and 2 twice", y.told(4, 0), 4);
+    }
+
     /** NODE 0 is ACTIVE in CYCLE 7 already, the others are not. */
     private static void trimOfAll() {
         SlotStart x = Scenes.six();
@@ -217,7 +249,7 @@ final class Promise07RunTest {
         Check.due("AT of its GUIDE", x.told(0, 5), 100100);
     }
 
-    /** NODE 2 SENDS in CYCLE 11 first, and NODE 1 not in it: both are no matter for RATE in it. In CYCLE 13 NODE 2 is. */
+    /** NODE 2 SENDS in CYCLE 11 first, NODE 1 in CYCLE 10 last: for RATE both are no matter in CYCLE 11. */
     private static void onlyWhoSentAhead() {
         SlotStart x = Scenes.two();
         x.clock(2, 1, 100);
