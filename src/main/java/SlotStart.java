@@ -304,7 +304,7 @@ public final class SlotStart {
     }
 
     private static boolean isIn(int set, int n) {
-        return (set & bitOf(n)) != 0;
+        return (set >> n & 1) == 1;
     }
 
     private static boolean areAllIn(int part, int set) {

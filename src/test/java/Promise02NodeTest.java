@@ -2,7 +2,9 @@
 final class Promise02NodeTest {
     public static void main(String[] args) {
         refusals();
+        allNumbers();
         edges();
+        whatItHasAlready();
         states();
         effects();
         Check.end();
@@ -32,6 +34,45 @@ final class Promise02NodeTest {
         Check.due("what is refused changes no SLOT", x.node(0, 1, 1, 1), 1);
     }
 
+    /** Each number at and beyond its ends, with each of the others, for a new object. */
+    private static void allNumbers() {
+        for (int kind = -1; kind <= 4; kind++) {
+            for (int slot = -1; slot <= 11; slot++) {
+                for (int wait = -1; wait <= 11; wait++) {
+                    boolean within = kind >= 1 && kind <= 2 && slot >= 1 && slot <= 9 && wait >= 1 && wait <= 9;
+                    boolean taken = slot >= 1 && slot <= 6 && slot != 4;
+                    int due = !within ? SlotStart.OUTSIDE : taken ? SlotStart.STATE : 4;
+                    String call = "node(3, " + kind + ", " + slot + ", " + wait + ")";
+                    Check.due(call, new SlotStart().node(3, kind, slot, wait), due);
+                }
+            }
+        }
+    }
+
+    private static void whatItHasAlready() {
+        Twins.Story story = x -> {
+            x.wake(0, 5);
+            x.run(4);
+        };
+        Twins.same("node with what it has", story, x -> {
+            story.tell(x);
+            Check.due("node(2, 1, 3, 3)", x.node(2, 1, 3, 3), 3);
+            Check.due("node(5, 2, 6, 3)", x.node(5, 2, 6, 3), 6);
+        });
+        Twins.differ("another KIND", story, x -> {
+            story.tell(x);
+            x.node(2, 2, 3, 3);
+        });
+        Twins.differ("another SLOT", story, x -> {
+            story.tell(x);
+            x.node(2, 1, 7, 3);
+        });
+        Twins.differ("another WAIT", story, x -> {
+            story.tell(x);
+            x.node(2, 1, 3, 4);
+        });
+    }
+
     private static void edges() {
         SlotStart x = new SlotStart();
         Check.due("node(0, 2, 9, 9)", x.node(0, 2, 9, 9), 1);
@@ -50,6 +91,16 @@ final class Promise02NodeTest {
         Check.due("node of a LEADING one", x.node(0, 1, 1, 3), SlotStart.STATE);
         x.off(0);
         Check.due("node of one that is OFF again", x.node(0, 1, 7, 3), 1);
+        SlotStart j = new SlotStart();
+        j.wake(0, 0);
+        j.wake(1, 0);
+        j.run(6);
+        Check.due("told(1, 0)", j.told(1, 0), 3);
+        Check.due("node of a JOINING one", j.node(1, 1, 2, 3), SlotStart.STATE);
+        j.run(3);
+        Check.due("told(1, 0)", j.told(1, 0), 4);
+        Check.due("node of an ACTIVE one", j.node(1, 1, 2, 3), SlotStart.STATE);
+        Check.due("node of a PASSIVE one", Scenes.onePassive().node(3, 2, 4, 3), SlotStart.STATE);
         SlotStart y = Scenes.twoHalted();
         Check.due("told(0, 0)", y.told(0, 0), 6);
         Check.due("node of a HALTED one", y.node(0, 1, 1, 3), SlotStart.STATE);

@@ -2,6 +2,8 @@
 final class Promise03ClockTest {
     public static void main(String[] args) {
         refusals();
+        allNumbers();
+        anyNode();
         answers();
         effects();
         Check.end();
@@ -19,6 +21,42 @@ final class Promise03ClockTest {
         Check.due("clock(0, 1, -401)", x.clock(0, 1, -401), SlotStart.OUTSIDE);
         Check.due("refused: DRIFT as it was", x.clock(0, 0, 0), 1000);
         Check.due("refused: LIE as it was", x.clock(0, 1, 0), 1000);
+    }
+
+    /** Numbers that are outside for DRIFT may be within for LIE. */
+    private static void allNumbers() {
+        int[] numbers = {-401, -400, -399, -51, -50, -49, -1, 0, 1, 49, 50, 51, 399, 400, 401};
+        for (int v : numbers) {
+            boolean isDrift = v >= -50 && v <= 50;
+            boolean isLie = v >= -400 && v <= 400;
+            SlotStart x = new SlotStart();
+            Check.due("clock(2, 0, " + v + ")", x.clock(2, 0, v), isDrift ? 1000 : SlotStart.OUTSIDE);
+            Check.due("DRIFT then", x.clock(2, 0, 0), 1000 + (isDrift ? v : 0));
+            Check.due("clock(2, 1, " + v + ")", x.clock(2, 1, v), isLie ? 1000 : SlotStart.OUTSIDE);
+            Check.due("LIE then", x.clock(2, 1, 0), 1000 + (isLie ? v : 0));
+            Check.due("clock(2, -1, " + v + ")", x.clock(2, -1, v), SlotStart.OUTSIDE);
+            Check.due("clock(2, 2, " + v + ")", x.clock(2, 2, v), SlotStart.OUTSIDE);
+        }
+    }
+
+    /** Whatever a NODE IS, its clock may be changed; it IS the same then, with the same AGE and AT. */
+    private static void anyNode() {
+        SlotStart[] some = {new SlotStart(), Scenes.six(), Scenes.onePassive(), Scenes.twoHalted(), Scenes.slow()};
+        for (SlotStart x : some) {
+            for (int n = 0; n < 6; n++) {
+                int[] ahead = new int[10];
+                for (int what = 0; what < 10; what++) {
+                    ahead[what] = x.told(n, what);
+                }
+                x.clock(n, 0, n + 1);
+                x.clock(n, 1, n + 11);
+                for (int what = 0; what < 10; what++) {
+                    Check.due("told(" + n + ", " + what + ")", x.told(n, what), ahead[what]);
+                }
+                Check.due("DRIFT of " + n, x.clock(n, 0, 0), 1001 + n);
+                Check.due("LIE of " + n, x.clock(n, 1, 0), 1011 + n);
+            }
+        }
     }
 
     private static void answers() {

@@ -4,6 +4,8 @@ final class Promise05WakeTest {
         refusals();
         answers();
         halted();
+        haltedWithARate();
+        whatStays();
         Check.end();
     }
 
@@ -59,5 +61,43 @@ final class Promise05WakeTest {
         Check.due("told(0, 5)", x.told(0, 5), 99997);
         Check.due("told(0, 6)", x.told(0, 6), 1000);
         Check.due("told(0, 7)", x.told(0, 7), 0);
+    }
+
+    /** NODE 3 corrects its RATE in CYCLE 11, and is too far off from CYCLE 13 on. */
+    private static void haltedWithARate() {
+        SlotStart x = Scenes.three();
+        x.clock(3, 0, 40);
+        x.run(3);
+        Check.due("RATE of an ACTIVE one", x.told(3, 6), 960);
+        x.bound(0);
+        x.clock(3, 0, -50);
+        x.run(9);
+        Check.due("HALTED", x.told(3, 0), 6);
+        Check.due("RATE of a HALTED one", x.told(3, 6), 960);
+        x.wake(3, 500);
+        Check.due("RATE of one that is woken", x.told(3, 6), 1000);
+        Check.due("AT of one that is woken", x.told(3, 5), 100500);
+        x.run(1);
+        Check.due("AT with its DRIFT", x.told(3, 5), 100450);
+    }
+
+    /** KIND, SLOT, WAIT, DRIFT and LIE are not touched by wake, nor by off. */
+    private static void whatStays() {
+        SlotStart x = new SlotStart();
+        x.node(4, 1, 8, 5);
+        x.clock(4, 0, -6);
+        x.clock(4, 1, 66);
+        x.wake(4, 0);
+        x.off(4);
+        x.wake(4, 100);
+        x.run(4);
+        Check.due("WAIT", x.told(4, 0), 1);
+        x.run(1);
+        Check.due("KIND", x.told(4, 0), 2);
+        Check.due("AT", x.told(4, 5), 100070);
+        x.off(4);
+        Check.due("DRIFT", x.clock(4, 0, 0), 994);
+        Check.due("LIE", x.clock(4, 1, 0), 1066);
+        Check.due("SLOT", x.node(4, 1, 5, 3), 8);
     }
 }

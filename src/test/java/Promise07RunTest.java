@@ -2,6 +2,7 @@
 final class Promise07RunTest {
     public static void main(String[] args) {
         refusals();
+        manyAreManyTimesOne();
         whoSends();
         signs();
         loneLeader();
@@ -31,6 +32,38 @@ final class Promise07RunTest {
         Check.due("run(50)", x.run(50), 0);
         Check.due("count(0)", x.count(0), 51);
         Check.due("run(9) of six", Scenes.six().run(9), 63);
+    }
+
+    /** run(n) is n times run(1), for the least and the most. */
+    private static void manyAreManyTimesOne() {
+        int[] some = {1, 2, 3, 49, 50};
+        for (int n : some) {
+            Twins.same("run(" + n + ")", x -> {
+                aScene(x);
+                x.run(n);
+            }, x -> {
+                aScene(x);
+                for (int i = 0; i < n; i++) {
+                    x.run(1);
+                }
+            });
+        }
+        SlotStart x = Scenes.two();
+        int[] counts = {9, 10, 60, 61};
+        int[] runs = {1, 50, 1};
+        for (int i = 0; i < runs.length; i++) {
+            Check.due("count(0)", x.count(0), counts[i]);
+            Check.due("run(" + runs[i] + ")", x.run(runs[i]), 3);
+            Check.due("count(0)", x.count(0), counts[i + 1]);
+        }
+    }
+
+    private static void aScene(SlotStart x) {
+        x.wake(0, 0);
+        x.wake(1, 70);
+        x.wake(4, -7);
+        x.clock(1, 0, 13);
+        x.clock(4, 1, 45);
     }
 
     /** (a): all give way at once to the one with the least SLOT. */

@@ -8,6 +8,8 @@ final class Promise08ToldTest {
         Check.due("told(0, 10)", x.told(0, 10), SlotStart.OUTSIDE);
         agesAndCounts();
         guides();
+        sent();
+        noCycle();
         Check.end();
     }
 
@@ -46,6 +48,47 @@ final class Promise08ToldTest {
         x.off(3);
         x.wake(3, 0);
         Check.due("told(3, 7) of one that was woken anew", x.told(3, 7), 0);
+    }
+
+    /** NODE 3 SENT in CYCLES 8 to 11, then it is PASSIVE, and HALTED by CYCLE 17. */
+    private static void sent() {
+        SlotStart x = Scenes.onePassive();
+        Check.due("SENT by a PASSIVE one", x.told(3, 7), 4);
+        x.run(6);
+        Check.due("SENT by a HALTED one", x.told(3, 7), 4);
+        x.wake(3, 0);
+        Check.due("SENT by one that is woken", x.told(3, 7), 0);
+        SlotStart y = Scenes.two();
+        Check.due("SENT by 0, from CYCLE 4 on", y.told(0, 7), 5);
+        Check.due("SENT by 1, from CYCLE 6 on", y.told(1, 7), 3);
+        y.run(50);
+        Check.due("SENT by 0, 50 more", y.told(0, 7), 55);
+        y.off(0);
+        Check.due("SENT by one that is OFF", y.told(0, 7), 0);
+        y.run(3);
+        Check.due("SENT by one that is OFF, later", y.told(0, 7), 0);
+        y.wake(0, 0);
+        Check.due("SENT by one that is woken", y.told(0, 7), 0);
+    }
+
+    /** No CYCLE, and none in which there was a GUIDE. */
+    private static void noCycle() {
+        SlotStart x = new SlotStart();
+        x.wake(0, 0);
+        x.wake(3, 0);
+        for (int i = 0; i < 4; i++) {
+            for (int n = 0; n < 6; n++) {
+                Check.due("GUIDE of " + n + " behind " + i, x.told(n, 8), SlotStart.NONE);
+                Check.due("HEARD by " + n + " behind " + i, x.told(n, 9), 0);
+            }
+            x.run(1);
+        }
+        x.run(1);
+        Check.due("GUIDE behind 5", x.told(3, 8), 0);
+        x.off(0);
+        x.run(1);
+        Check.due("GUIDE of the last CYCLE alone", x.told(3, 8), SlotStart.NONE);
+        Check.due("HEARD in the last CYCLE alone", x.told(3, 9), 0);
     }
 
     /** The GUIDE has the least SLOT, not the least number, and is a STARTER. */

@@ -3,6 +3,8 @@ final class Promise10TrimTest {
     public static void main(String[] args) {
         refusals();
         numbers();
+        ends();
+        equalOnes();
         orders();
         again();
         Check.end();
@@ -27,8 +29,48 @@ final class Promise10TrimTest {
             due(100000, 3, 0, 0, 0, 5001 * sign);
             due(100000 + 5000 * sign, 1, 5000 * sign, 0, 0, 0);
         }
-        due(SlotStart.OUTSIDE, 1, Integer.MIN_VALUE, 0, 0, 0);
-        due(SlotStart.OUTSIDE, 1, Integer.MAX_VALUE, 0, 0, 0);
+        due(SlotStart.OUTSIDE, Integer.MIN_VALUE, 0, 0, 0, 0);
+        due(SlotStart.OUTSIDE, Integer.MAX_VALUE, 0, 0, 0, 0);
+        due(SlotStart.OUTSIDE, 0, 9999, 9999, 9999, 9999);
+        due(SlotStart.OUTSIDE, 5, 9999, 9999, 9999, 9999);
+    }
+
+    /** Each of the first n at its ends and beyond, whatever is told behind them. */
+    private static void ends() {
+        int[] beyond = {Integer.MIN_VALUE, -5001, 5001, Integer.MAX_VALUE};
+        int[] within = {-5000, 5000};
+        for (int n = 1; n <= 4; n++) {
+            for (int place = 0; place < 4; place++) {
+                for (int v : beyond) {
+                    int[] row = new int[4];
+                    row[place] = v;
+                    due(place < n ? SlotStart.OUTSIDE : 100000, n, row[0], row[1], row[2], row[3]);
+                }
+                for (int v : within) {
+                    int[] row = new int[4];
+                    row[place] = v;
+                    int due = place >= n || n > 2 ? 0 : v / n;
+                    due(100000 + due, n, row[0], row[1], row[2], row[3]);
+                }
+            }
+        }
+        for (int v : within) {
+            for (int n = 1; n <= 4; n++) {
+                due(100000 + v, n, v, v, v, v);
+            }
+        }
+    }
+
+    /** Of equal ones but one is left out. */
+    private static void equalOnes() {
+        due(100001, 3, 1, 1, 9, 0);
+        due(100009, 3, 1, 9, 9, 0);
+        due(100001, 3, 1, 9, 1, 0);
+        due(100009, 3, 9, 9, 1, 0);
+        due(100005, 4, 1, 1, 9, 9);
+        due(100001, 4, 1, 1, 1, 9);
+        due(100009, 4, 1, 9, 9, 9);
+        due(99995, 4, -1, -9, -9, -1);
     }
 
     private static void numbers() {

@@ -1,11 +1,10 @@
-import java.util.List;
-
 /** Promise 16: restore. */
 final class Promise16RestoreTest {
     public static void main(String[] args) {
         refusals();
         allIsAsItWas();
-        eventsAndCounts();
+        countsGoOn();
+        fullEvents();
         whatCannotBeToldIsAsItWas();
         twoStartersAhead();
         imagesStay();
@@ -26,42 +25,56 @@ final class Promise16RestoreTest {
         Check.due("restored", x.told(2, 0), 0);
     }
 
+    /** Whatever came between: the same story without it comes to the same. */
     private static void allIsAsItWas() {
-        SlotStart x = Scenes.three();
+        Twins.Story[] between = {x -> { }, x -> x.run(1), Promise16RestoreTest::much, Promise16RestoreTest::manyEvents};
+        for (int k = 0; k < 2; k++) {
+            for (int i = 0; i < between.length; i++) {
+                int image = k;
+                Twins.Story story = between[i];
+                Twins.same("restore(" + k + "), " + i, x -> {
+                    begin(x);
+                    x.image(image);
+                }, x -> {
+                    begin(x);
+                    x.image(image);
+                    story.tell(x);
+                    Check.due("restore(" + image + ")", x.restore(image), 1);
+                });
+            }
+        }
+        Twins.differ("what came between matters", Promise16RestoreTest::begin, x -> {
+            begin(x);
+            much(x);
+        });
+    }
+
+    private static void begin(SlotStart x) {
+        x.node(5, 1, 9, 2);
+        x.wake(0, 0);
+        x.wake(1, 0);
+        x.wake(3, 0);
+        x.run(9);
         x.clock(3, 0, 17);
         x.clock(1, 1, -25);
         x.bound(123);
         x.run(4);
-        List<Integer> then = Dump.of(x);
-        x.image(0);
+    }
+
+    private static void much(SlotStart x) {
         x.run(6);
-        List<Integer> later = Dump.of(x);
         x.bound(3);
         x.clock(3, 0, 1);
         x.clock(1, 1, 2);
         x.off(0);
-        x.node(0, 2, 9, 9);
+        x.node(0, 2, 7, 9);
         x.wake(0, 400);
+        x.node(5, 2, 6, 7);
+        x.node(2, 2, 9, 9);
         x.run(40);
-        Check.due("restore(0)", x.restore(0), 1);
-        Dump.same("as it was", Dump.of(x), then);
-        x.run(6);
-        Dump.same("and it goes on as it did", Dump.of(x), later);
-        x.restore(0);
-        Check.due("DRIFT", x.clock(3, 0, 0), 1017);
-        Check.due("LIE", x.clock(1, 1, 0), 975);
-        Check.due("off(0)", x.off(0), 4);
-        Check.due("SLOT", x.node(0, 1, 9, 3), 1);
     }
 
-    private static void eventsAndCounts() {
-        SlotStart x = Scenes.onePassive();
-        x.run(4);
-        List<Integer> then = Dump.of(x);
-        Check.due("BAD", x.told(3, 4), 2);
-        x.image(0);
-        x.run(2);
-        Check.due("HALTED", x.told(3, 0), 6);
+    private static void manyEvents(SlotStart x) {
         x.off(0);
         x.off(1);
         x.off(3);
@@ -70,14 +83,46 @@ final class Promise16RestoreTest {
             x.run(50);
         }
         Check.due("events", x.event(-1, 0), 40);
+    }
+
+    /** BAD 2 of NODE 3: one more, and it is HALTED; one GOOD, and it is not. */
+    private static void countsGoOn() {
+        SlotStart x = Scenes.onePassive();
+        x.run(4);
+        Check.due("BAD", x.told(3, 4), 2);
+        x.image(0);
+        x.run(2);
+        Check.due("HALTED", x.told(3, 0), 6);
         x.restore(0);
-        Dump.same("as it was", Dump.of(x), then);
+        Check.due("BAD", x.told(3, 4), 2);
         x.run(2);
         Check.due("HALTED", x.told(3, 0), 6);
         x.restore(0);
         x.bound(500);
         x.run(2);
         Check.due("GOOD", x.told(3, 3), 1);
+    }
+
+    /** The ring of 40 events is full, and its oldest one is not the first of all. */
+    private static void fullEvents() {
+        SlotStart x = new SlotStart();
+        x.wake(1, 0);
+        for (int i = 0; i < 5; i++) {
+            x.run(50);
+        }
+        int oldest = x.event(0, 0);
+        int newest = x.event(39, 0);
+        Check.due("some are gone", oldest > 2 ? 1 : 0, 1);
+        x.image(1);
+        x.run(50);
+        Check.due("the oldest is another", x.event(0, 0) > oldest ? 1 : 0, 1);
+        x.restore(1);
+        Check.due("how many", x.event(-1, 0), 40);
+        Check.due("the oldest", x.event(0, 0), oldest);
+        Check.due("the newest", x.event(39, 0), newest);
+        x.run(50);
+        x.restore(1);
+        Check.due("the oldest, again", x.event(0, 0), oldest);
     }
 
     /** NODE 3 HEARD two STARTERS in CYCLE 6. */

@@ -2,22 +2,27 @@ import java.lang.management.ManagementFactory;
 
 /** No call makes an object: the dearest calls, again and again, take no room. */
 final class RoomTest {
-    private static final int CALLS = 512;
+    private static final int OBJECTS = 6, ROUNDS = 80;
     /** What the machine takes for itself on the way; one object a CYCLE would be a hundred times as much. */
     private static final long SOME_BYTES = 64 * 1024;
 
     public static void main(String[] args) {
-        SlotStart x = Scenes.six();
-        calls(x, 20);
+        SlotStart[] some = new SlotStart[OBJECTS];
+        for (int i = 0; i < OBJECTS; i++) {
+            some[i] = Scenes.six();
+        }
+        calls(Scenes.six());
         long ahead = taken();
-        calls(x, CALLS);
+        for (SlotStart x : some) {
+            calls(x);
+        }
         long bytes = taken() - ahead;
         Check.due("bytes taken: " + bytes + ", too many", bytes > SOME_BYTES ? 1 : 0, 0);
         Check.end();
     }
 
-    private static void calls(SlotStart x, int n) {
-        for (int i = 0; i < n; i++) {
+    private static void calls(SlotStart x) {
+        for (int i = 0; i < ROUNDS; i++) {
             x.bears(i % 6, 40, 0);
             x.soon();
             x.run(50);

@@ -49,4 +49,39 @@ final class Scenes {
         x.run(9);
         return x;
     }
+
+    /**
+     * NODES 0, 1, 2, 3, 5 are awake, 4 is OFF; four of them lie so that they fall silent and come back in turns. All
+     * five are ACTIVE behind 243 CYCLES more first.
+     */
+    static SlotStart slow() {
+        SlotStart x = new SlotStart();
+        x.node(1, 2, 2, 3);
+        x.clock(1, 1, 250);
+        x.clock(2, 1, -35);
+        x.clock(3, 1, -400);
+        x.clock(5, 1, 300);
+        x.wake(2, 100);
+        x.wake(5, 50);
+        x.run(5);
+        x.wake(0, 0);
+        x.wake(1, 0);
+        x.wake(3, 0);
+        return x;
+    }
+
+    /**
+     * As two(), but the next CYCLE is 11, and in it both see the other one so far off that they go apart: behind it
+     * they are 300 ticks and half of both lies apart, and behind CYCLE 12 300 more.
+     */
+    static SlotStart goingApart(int lie, int otherLie) {
+        SlotStart x = two();
+        x.bound(500);
+        x.run(2);
+        x.clock(1, 1, lie);
+        x.clock(0, 1, -otherLie);
+        x.clock(0, 0, 50);
+        x.clock(1, 0, -50);
+        return x;
+    }
 }
