@@ -17,6 +17,7 @@ final class FaceTest {
         Set<String> face = new TreeSet<>(Set.of(FACE));
         Set<String> found = new TreeSet<>();
         for (Method m : SlotStart.class.getDeclaredMethods()) {
+            methodInside(m);
             if (!Modifier.isPrivate(m.getModifiers())) {
                 found.add(name(m.getName(), m.getParameterTypes()));
                 Check.due("modifiers of " + m, m.getModifiers(), Modifier.PUBLIC);
@@ -36,11 +37,39 @@ final class FaceTest {
         }
         Check.due("face " + face + ", found " + found, face.equals(found) ? 1 : 0, 1);
         Check.due("public final", SlotStart.class.getModifiers(), Modifier.PUBLIC | Modifier.FINAL);
+        for (Class<?> inside : SlotStart.class.getDeclaredClasses()) {
+            classInside(inside);
+        }
         Check.due("UNKNOWN", SlotStart.UNKNOWN, -1);
         Check.due("OUTSIDE", SlotStart.OUTSIDE, -2);
         Check.due("STATE", SlotStart.STATE, -3);
         Check.due("NONE", SlotStart.NONE, -6);
         Check.end();
+    }
+
+    /** LANGUAGE.md, rules 1, 2 and 11: static, not seen from outside, no name of the face for what is private. */
+    private static void classInside(Class<?> inside) {
+        int seen = Modifier.PUBLIC | Modifier.PROTECTED;
+        Check.due("static: " + inside, inside.getModifiers() & Modifier.STATIC, Modifier.STATIC);
+        Check.due("not seen from outside: " + inside, inside.getModifiers() & seen, 0);
+        for (Method m : inside.getDeclaredMethods()) {
+            methodInside(m);
+        }
+        int fields = 0;
+        for (Field f : inside.getDeclaredFields()) {
+            fields += Modifier.isStatic(f.getModifiers()) ? 0 : 1;
+        }
+        Check.due("more than twenty fields: " + inside, fields > 20 ? 1 : 0, 0);
+    }
+
+    private static void methodInside(Method m) {
+        boolean ofTheFace = false;
+        for (String of : FACE) {
+            ofTheFace |= of.startsWith(m.getName() + "(");
+        }
+        boolean isPrivate = Modifier.isPrivate(m.getModifiers());
+        Check.due("private with a name of the face: " + m, isPrivate && ofTheFace ? 1 : 0, 0);
+        Check.due("more than seven parameters: " + m, m.getParameterCount() > 7 ? 1 : 0, 0);
     }
 
     private static String name(String name, Class<?>[] types) {

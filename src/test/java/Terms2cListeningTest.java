@@ -11,7 +11,7 @@ final class Terms2cListeningTest {
         oneThatWasHaltedAhead();
         twoStartersTwice();
         twoStartersOfManyThatSend();
-        guidesButNoStarterHeardIsNoneTwice();
+        noGuideTwice();
         whatWasHeardByAnotherKind();
         followingBeyondTheEndsOfRate();
         followingAsThingsWere();
@@ -225,7 +225,7 @@ final class Terms2cListeningTest {
     }
 
     /** "The same one": none in both CYCLES is no GUIDE. */
-    private static void guidesButNoStarterHeardIsNoneTwice() {
+    private static void noGuideTwice() {
         SlotStart x = new SlotStart();
         x.node(0, 1, 1, 9);
         x.wake(0, 0);
