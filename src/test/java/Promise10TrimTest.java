@@ -7,6 +7,7 @@ final class Promise10TrimTest {
         equalOnes();
         orders();
         again();
+        fewerBehindRefused();
         Check.end();
     }
 
@@ -108,6 +109,17 @@ final class Promise10TrimTest {
                         due(100005, 4, some[a], some[b], some[c], some[d]);
                     }
                 }
+            }
+        }
+    }
+
+    /** What a refused call was told is no matter for the next one, which is told fewer numbers. */
+    private static void fewerBehindRefused() {
+        for (int sign = -1; sign <= 1; sign += 2) {
+            for (int n = 1; n < 4; n++) {
+                SlotStart x = new SlotStart();
+                Check.due("refused", x.trim(4, 5001 * sign, 5001 * sign, 5001 * sign, 5001 * sign), SlotStart.OUTSIDE);
+                Check.due("trim of " + n + " behind it", x.trim(n, 7, 7, 7, 7), 100007);
             }
         }
     }

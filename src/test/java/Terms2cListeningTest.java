@@ -15,6 +15,7 @@ final class Terms2cListeningTest {
         whatWasHeardByAnotherKind();
         followingBeyondTheEndsOfRate();
         followingAsThingsWere();
+        followingAsItIsInThisCycle();
         Check.end();
     }
 
@@ -299,5 +300,35 @@ final class Terms2cListeningTest {
         Check.due("SEEN of the GUIDE", x.seen(2, 0), 100027);
         Check.due("RATE of one that FOLLOWS", x.told(2, 6), 1010);
         Check.due("AT of one that FOLLOWS", x.told(2, 5), 100030);
+    }
+
+    /**
+     * DRIFT and RATE of the GUIDE are those of the CYCLE in which it is FOLLOWED, not those of the one ahead: NODES 2
+     * and 3 have it ahead in CYCLE 9 (11), and then its DRIFT is set between the two (its RATE was corrected at the end).
+     */
+    private static void followingAsItIsInThisCycle() {
+        SlotStart x = Scenes.two();
+        x.wake(2, 0);
+        x.wake(3, 0);
+        x.clock(3, 0, -4);
+        x.run(1);
+        x.clock(0, 0, 10);
+        x.run(1);
+        Check.due("JOINING in CYCLE 10", x.told(2, 0), 3);
+        Check.due("RATE by the new DRIFT", x.told(2, 6), 1010);
+        Check.due("ACTIVE in CYCLE 10", x.told(3, 0), 4);
+        Check.due("RATE by the new DRIFT, less its own", x.told(3, 6), 1014);
+        SlotStart y = Scenes.two();
+        y.clock(0, 0, 10);
+        y.run(2);
+        y.wake(2, 0);
+        y.wake(3, 0);
+        y.run(1);
+        Check.due("RATE of the GUIDE behind CYCLE 11", y.told(0, 6), 995);
+        y.run(1);
+        Check.due("JOINING in CYCLE 12", y.told(2, 0), 3);
+        Check.due("RATE by the new RATE", y.told(2, 6), 1005);
+        Check.due("ACTIVE in CYCLE 12", y.told(3, 0), 4);
+        Check.due("RATE by the new RATE, of a FOLLOWER", y.told(3, 6), 1005);
     }
 }
